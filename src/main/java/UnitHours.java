@@ -841,8 +841,15 @@ public final class UnitHours {
 
         /** What an hour costs, its starts too; NONE, if it is not met. */
         int hourCost(int demand, int unitsOn, int starting) {
-            int lack = demand - floorsOf(unitsOn);
-            if (lack < 0 || roofsOf(unitsOn, starting) < demand + reserve) {
+            int lack = demand;
+            int room = -demand - reserve;
+            for (int u = 0; u < units; u++) {
+                if ((unitsOn >> u & 1) == 1) {
+                    lack -= floors[u];
+                    room += (starting >> u & 1) == 1 ? startRoofs[u] : highs[u];
+                }
+            }
+            if (lack < 0 || room < 0) {
                 return NONE;
             }
             int cost = 0;
@@ -1131,7 +1138,10 @@ public final class UnitHours {
         /** The best plan with one unit left out (-1: with all), as one number; NONE, if there is none. */
         long findBest(Day day, int without) {
             layStates(day, without);
-            walkTo(day, day.hours);
+            beginOff();
+            for (int h = 0; h < day.hours; h++) {
+                step(day, h);
+            }
             long least = FAR;
             for (int s = 0; s < states; s++) {
                 least = Math.min(least, ahead[s]);
@@ -1142,7 +1152,10 @@ public final class UnitHours {
         /** For each combo of one hour: what is best in all others, so that demands can be tried there. */
         void lookAround(Day day, int hour) {
             layStates(day, -1);
-            walkTo(day, hour);
+            beginOff();
+            for (int h = 0; h < hour; h++) {
+                step(day, h);
+            }
             fillStates(behind, 0);
             for (int h = day.hours - 1; h > hour; h--) {
                 stepBack(day, h);
@@ -1174,12 +1187,10 @@ public final class UnitHours {
             return least;
         }
 
-        private void walkTo(Day day, int hour) {
+        /** Ahead of hour 0 there is one way, to the state in which all are off long since. */
+        private void beginOff() {
             fillStates(ahead, FAR);
             ahead[0] = 0;
-            for (int h = 0; h < hour; h++) {
-                step(day, h);
-            }
         }
 
         private void fillStates(long[] row, long v) {
