@@ -688,13 +688,6 @@ public final class UnitHours {
         private final int[] startRoofs = new int[MOST_UNITS];
         private final int[] startCosts = new int[MOST_UNITS];
 
-        void clear() {
-            hours = 0;
-            units = 0;
-            reserve = 0;
-            Arrays.fill(on, 0);
-        }
-
         void becomeLike(Day other) {
             hours = other.hours;
             units = other.units;
@@ -721,7 +714,7 @@ public final class UnitHours {
             settle();
         }
 
-        void settle() {
+        private void settle() {
             for (int u = 0; u < units; u++) {
                 boolean isWater = kinds[u] == WATER || kinds[u] == RIVER;
                 floors[u] = isWater ? 0 : lows[u];
@@ -930,11 +923,14 @@ public final class UnitHours {
             return length;
         }
 
-        /** Each step does nothing once there is a fault, so that at stays where it was found. */
+        /**
+         * Reads into a day that is only looked at where there is no fault. Each step does nothing once there
+         * is one, so that at stays where it was found.
+         */
         void readInto(Day day) {
             at = 0;
             fault = 0;
-            day.clear();
+            Arrays.fill(day.on, 0);
             readSign('v');
             day.reserve = readNumber(0, MOST_RESERVE);
             readSign(';');
@@ -984,7 +980,6 @@ public final class UnitHours {
             readSign(',');
             day.downs[unit] = readNumber(1, 3);
             readSign(';');
-            day.settle();
         }
 
         private int kindOfSort(int letter) {

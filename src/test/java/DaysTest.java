@@ -11,6 +11,7 @@ public final class DaysTest {
         days();
         faults();
         faultsStay();
+        tapeEnds();
         run();
         layBest();
         demandReservePrice();
@@ -157,6 +158,27 @@ public final class DaysTest {
         due("8: the latest fault", x.fault(), 2);
         x.day();
         due("8: the latest fault", x.fault(), 1);
+    }
+
+    /** A text ends where the tape does, whatever stood there before, and even where the tape is full. */
+    private static void tapeEnds() {
+        UnitHours x = new UnitHours();
+        Check.feedText(x, "v0;h1234567");
+        due("7: a run of figures", x.day(), -1000104);
+        Check.feedText(x, "v0;h12");
+        due("7: the end behind two figures", x.day(), -1000106);
+        Check.feedText(x, "v0;h1");
+        due("7: the end behind one", x.day(), -1000105);
+        due("8: cannot stand there", x.fault(), 1);
+        Check.feedText(x, "v0;h1;h");
+        due("7: the end", x.day(), -1000107);
+        String longest = "v20;h60;h60;h60;h60;h60;h60;" + "p20,30,09,40,03,03;".repeat(4);
+        Check.feedText(x, longest);
+        due("7: the longest day", x.day(), 4);
+        Check.feedText(x, longest + "p20,30,09,40,03,03;");
+        due("7: a fifth unit on a full tape", x.day(), -1000100 - longest.length());
+        due("8: no room", x.fault(), 3);
+        due("7: the day stays", x.count(1), 4);
     }
 
     private static void run() {

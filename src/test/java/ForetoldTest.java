@@ -4,6 +4,8 @@ public final class ForetoldTest {
     private static final int NULL = -1000011, PLACE = -1000012;
     private static final String TWO = "v1;h5;h8;p2,6,3,4,1,1;q1,5,2,7,1,1;";
     private static final String DAY = "v2;h10;h22;h30;h18;h5;p4,14,3,10,2,2;q3,12,5,8,1,1;s2,10,4,5,2,1;w5,9,1,30,1,3;";
+    /** A seed whose first draw is a demand of 0. */
+    private static final int DRAWS_0 = 23;
     private static final Check CHECK = new Check("ForetoldTest");
 
     public static void main(String[] args) {
@@ -19,6 +21,9 @@ public final class ForetoldTest {
         more();
         wanted();
         demandsBy();
+        demandsOfAnyHour();
+        whatCostsNothing();
+        afterChanges();
         kindsAndPricesBy();
         fits();
         drawn();
@@ -85,6 +90,9 @@ public final class ForetoldTest {
         best("v0;h0;h5;p4,8,1,9,3,3;", 14, 0, 1);
         best("v0;h5;h0;p4,8,1,9,2,1;", NONE);
         best("v0;h5;h4;h0;p4,8,1,9,2,3;", 18, 1, 1, 0);
+        best("v0;h5;h1;h1;h0;p1,9,2,3,3,1;", 17, 1, 1, 1, 0);
+        best("v0;h5;h1;h0;h5;p1,9,2,3,3,1;", NONE);
+        best("v0;h5;h1;h1;h1;h1;h0;p1,9,2,3,3,1;", 21, 1, 1, 1, 1, 1, 0);
     }
 
     private static UnitHours priced(String text, int... prices) {
@@ -191,6 +199,7 @@ public final class ForetoldTest {
         due("24: gap", x.gap(0), 17);
         due("24: gap", x.gap(1), 8);
         due("24: gap", x.gap(4), 7);
+        due("24: gap", x.gap(12), 2);
         due("24: n", x.gap(-1), BAD);
         due("24: n", x.gap(13), BAD);
         x.demand(0, 10);
@@ -249,7 +258,9 @@ public final class ForetoldTest {
         due("27: none", y.who(0, 1, 45), 0);
         UnitHours z = Check.withDay("v0;h4;w0,30,1,0,1,1;w0,30,1,0,1,1;w0,30,1,0,1,1;");
         due("27: up to 60", z.who(1, 0, 60), 60);
+        due("27: up to 60", z.who(0, 0, 60), 1);
         due("27: no further", z.who(1, 0, 61), NONE);
+        due("27: no further", z.who(0, 0, 61), 0);
         due("27: which", y.who(-1, 0, 0), BAD);
         due("27: which", y.who(4, 0, 0), BAD);
         due("27: hour", y.who(0, 2, 0), BAD);
@@ -257,6 +268,74 @@ public final class ForetoldTest {
         due("27: v", y.who(0, 0, -1), BAD);
         due("27: v", y.who(0, 0, 100000), BAD);
         due("27: no day", new UnitHours().who(4, 0, 0), STATE);
+    }
+
+    private static void demandsOfAnyHour() {
+        UnitHours x = Check.withDay(TWO);
+        int[] costs = {28, 30, 32, 34, 38, 40, 42, 45, 48, 51};
+        for (int d = 1; d <= costs.length; d++) {
+            due("27: of hour 0, the least for " + costs[d - 1], x.who(1, 0, costs[d - 1]), d);
+            due("27: of hour 0, how many for " + costs[d - 1], x.who(0, 0, costs[d - 1]), 1);
+        }
+        UnitHours y = Check.withDay("v0;h5;h5;h5;p1,9,2,3,2,2;");
+        long[] off = {x.who(0, 0, 23), y.who(1, 0, 23), y.who(1, 1, 23), y.who(1, 2, 23)};
+        CHECK.dueAll("27: by being off", off, 0, 0, NONE, 0);
+        long[] on = {y.who(1, 0, 25), y.who(1, 1, 25), y.who(1, 2, 25), y.who(1, 1, 41), y.who(1, 1, 43)};
+        CHECK.dueAll("27: by being on", on, 1, 1, 1, 9, NONE);
+        y.demand(2, 60);
+        CHECK.dueAll("27: another hour fails", new long[] {y.who(0, 0, 25), y.who(1, 1, 25), y.who(1, 2, 25)},
+                0, NONE, 1);
+    }
+
+    /** The best plan of all is to do nothing, and that is a plan. */
+    private static void whatCostsNothing() {
+        UnitHours x = Check.withDay("v0;h0;p5,9,1,0,1,1;");
+        x.row(0, 0, 1);
+        due("10: layBest", x.layBest(), 0);
+        due("20: best", x.best(0), 0);
+        due("24: gap", x.gap(0), 0);
+        due("25: more", x.more(0), NONE);
+        due("26: wanted", x.wanted(), 0);
+        due("27: demands", x.who(1, 0, 0), 0);
+        due("27: kinds", x.who(2, 0, 0), 0b111110);
+        due("28: fits", x.fits(0, 0, 1), 0b011110);
+        due("29: drawn", x.drawn(1, DRAWS_0, 0), 1);
+        due("29: drawn", x.drawn(1, DRAWS_0, 1), 0);
+        x.demand(0, 5);
+        due("25: more", x.more(0), 1);
+        x.become(0, 4);
+        x.demand(0, 0);
+        due("25: more than nothing", x.more(0), 1);
+    }
+
+    /** What is foretold is told of the day as it is, whatever was asked before. */
+    private static void afterChanges() {
+        UnitHours x = Check.withDay("v0;h4;p4,4,1,9,1,1;");
+        x.row(0, 0, 1);
+        x.set(0, 0, 1);
+        due("20: best", x.best(-1), 13);
+        x.price(0, 2);
+        due("27: kinds", x.who(2, 0, 17), 0b1010);
+        x.price(0, 3);
+        due("27: prices", x.who(3, 0, 17), 1 << 2);
+        x.demand(0, 0);
+        due("28: fits", x.fits(0, 0, 1), 0b100000);
+        x.image(0);
+        due("20: best", x.best(-1), 0);
+        x.demand(0, 4);
+        due("20: best", x.best(-1), 21);
+        x.undo();
+        due("20: undone", x.best(-1), 0);
+        x.demand(0, 4);
+        due("20: best", x.best(-1), 21);
+        x.restore(0);
+        due("20: restored", x.best(-1), 0);
+        x.run(0, 1);
+        due("25: more", x.more(0), NONE);
+        Check.feedText(x, "v0;h3;w4,4,1,9,1,1;w4,4,1,9,1,1;");
+        x.day();
+        due("20: another day", x.best(-1), 3);
+        due("7: all units are off", x.hour(0, 1), 0);
     }
 
     private static void kindsAndPricesBy() {
