@@ -1435,24 +1435,34 @@ public final class UnitHours {
             hoursOn = Integer.bitCount(day.on[unit]);
         }
 
-        /** SIZE: bodies 12 and 14 stand here, for none but their kind begins them. */
         int sizeOf() {
             switch (kind) {
                 case QUICK:
                     leave(12);
                     return -sizeOfPlain();
                 case WATER:
-                    return sizeOfWater();
                 case RIVER:
-                    leave(14);
-                    return 2 * sizeOfWater();
+                    return sizeOfWaters();
                 default:
                     return sizeOfPlain();
             }
         }
 
-        /** MARK: likewise bodies 22 and 24. */
         int markOf() {
+            return kind == WATER || kind == RIVER ? markOfWater() : markOfPlains();
+        }
+
+        /** SIZE asked of a unit that is known to be WATER; so no ask ever comes back to itself. */
+        private int sizeOfWaters() {
+            if (kind == RIVER) {
+                leave(14);
+                return 2 * sizeOfWater();
+            }
+            return sizeOfWater();
+        }
+
+        /** MARK asked of a unit that is known to be PLAIN, likewise. */
+        private int markOfPlains() {
             switch (kind) {
                 case QUICK:
                     leave(24);
@@ -1460,9 +1470,6 @@ public final class UnitHours {
                 case SLOW:
                     leave(22);
                     return markOfPlain() - 1000;
-                case WATER:
-                case RIVER:
-                    return markOfWater();
                 default:
                     return markOfPlain();
             }
@@ -1471,7 +1478,7 @@ public final class UnitHours {
         private int sizeOfPlain() {
             leave(11);
             int lent = sizeLent();
-            return lent + markOf();
+            return lent + markOfPlains();
         }
 
         private int sizeOfWater() {
@@ -1492,7 +1499,7 @@ public final class UnitHours {
         private int markOfWater() {
             leave(23);
             int lent = markLent();
-            return lent - sizeOf();
+            return lent - sizeOfWaters();
         }
 
         private int markLent() {
