@@ -850,7 +850,8 @@ public final class UnitHours {
                 int u = order[k];
                 if ((unitsOn >> u & 1) == 1) {
                     boolean isStarting = (starting >> u & 1) == 1;
-                    int added = Math.min(lack, (isStarting ? startRoofs[u] : highs[u]) - floors[u]);
+                    int spread = (isStarting ? startRoofs[u] : highs[u]) - floors[u];
+                    int added = lack < spread ? lack : spread;
                     lack -= added;
                     cost += (floors[u] + added) * prices[u] + (isStarting ? startCosts[u] : 0);
                 }
@@ -1069,43 +1070,45 @@ public final class UnitHours {
     }
 
     /**
-     * Looks for the best plan hour by hour. A unit is in one of at most six states: off or on, and for how
-     * many hours it still must stay so; all units together are in one of at most 1296. For each of these
-     * the best way to it is kept, as one number: its cost, and behind that the units that are on in hour 0,
-     * 1, .. (four bits each). So of two ways the lesser number is the better one, and of like cost the one
-     * that the document wants.
+     * Looks for the best plan hour by hour. A unit is in one of at most six states: off, and for how many hours
+     * it still must be, or on, and for how many it has been; all units together are in one of at most 1296. For
+     * each of these the best way to it is kept, as one number: its cost, and behind that the units that are on
+     * in hour 0, 1, .. (four bits each). So of two ways the lesser number is the better one, and of like cost the
+     * one that the document wants.
      */
     private static final class Search {
-        private static final int UNIT_STATES = 6, MOST_WAYS = 16, PLAN_BITS = MOST_UNITS * MOST_HOURS;
+        private static final int UNIT_STATES = 6, PLAN_BITS = MOST_UNITS * MOST_HOURS;
+        private static final int OFF = 0, STAYS = 1, STARTS = 2, ACTS_OF_ONE = 3;
         private static final long FAR = 1L << 60;
 
-        /** What the units do in an hour, by threes: 0 off, 1 stays on, 2 starts. */
+        /** A combo is what each unit does in an hour, by threes: OFF, STAYS, STARTS. */
         private final int[] comboOn = new int[MOST_COMBOS];
         private final int[] comboStarting = new int[MOST_COMBOS];
+        /** What each combo adds to a way: the cost of the hour, and its units. */
+        private final long[] comboParts = new long[MOST_COMBOS];
+        /** For each combo the best of all hours but one: lookAround. */
+        private final long[] comboAround = new long[MOST_COMBOS];
+        private final int[] stateCombo = new int[MOST_STATES];
         private final int[] sizes = new int[MOST_UNITS];
-        private final int[][] whenOff = new int[MOST_UNITS][UNIT_STATES];
-        private final int[][] whenOn = new int[MOST_UNITS][UNIT_STATES];
-        private final int[][] actWhenOn = new int[MOST_UNITS][UNIT_STATES];
-        private final int[] wayCombo = new int[MOST_WAYS];
-        private final int[] wayState = new int[MOST_WAYS];
-        private final long[] hourParts = new long[MOST_COMBOS];
-        private final long[] around = new long[MOST_COMBOS];
+        private final int[] weights = new int[MOST_UNITS];
+        /** How far a unit's turn moves the state of all; NONE, if it may not be off, or on. */
+        private final int[][] turnsOff = new int[MOST_UNITS][UNIT_STATES];
+        private final int[][] turnsOn = new int[MOST_UNITS][UNIT_STATES];
         private long[] ahead = new long[MOST_STATES];
-        private long[] aheadNext = new long[MOST_STATES];
         private long[] behind = new long[MOST_STATES];
-        private long[] behindNext = new long[MOST_STATES];
+        private long[] spare = new long[MOST_STATES];
         private int units;
         private int states;
         private int combos;
-        private int ways;
 
         Search() {
             for (int c = 0; c < MOST_COMBOS; c++) {
                 int rest = c;
                 for (int u = 0; u < MOST_UNITS; u++) {
-                    comboOn[c] |= (rest % 3 > 0 ? 1 : 0) << u;
-                    comboStarting[c] |= (rest % 3 == 2 ? 1 : 0) << u;
-                    rest /= 3;
+                    int act = rest % ACTS_OF_ONE;
+                    comboOn[c] |= (act == OFF ? 0 : 1) << u;
+                    comboStarting[c] |= (act == STARTS ? 1 : 0) << u;
+                    rest /= ACTS_OF_ONE;
                 }
             }
         }
@@ -1133,13 +1136,12 @@ public final class UnitHours {
         /** The best plan with one unit left out (-1: with all), as one number; NONE, if there is none. */
         long findBest(Day day, int without) {
             layStates(day, without);
-            beginOff();
-            for (int h = 0; h < day.hours; h++) {
-                step(day, h);
-            }
+            walk(day, day.hours);
             long least = FAR;
             for (int s = 0; s < states; s++) {
-                least = Math.min(least, ahead[s]);
+                if (ahead[s] < least) {
+                    least = ahead[s];
+                }
             }
             return least < FAR ? least : NONE;
         }
@@ -1147,23 +1149,13 @@ public final class UnitHours {
         /** For each combo of one hour: what is best in all others, so that demands can be tried there. */
         void lookAround(Day day, int hour) {
             layStates(day, -1);
-            beginOff();
-            for (int h = 0; h < hour; h++) {
-                step(day, h);
-            }
-            fillStates(behind, 0);
-            for (int h = day.hours - 1; h > hour; h--) {
-                stepBack(day, h);
-            }
-            Arrays.fill(around, FAR);
+            walk(day, hour);
+            turnAll();
+            walkBack(day, hour);
+            Arrays.fill(comboAround, FAR);
             for (int s = 0; s < states; s++) {
-                if (ahead[s] < FAR) {
-                    findWays(s);
-                    for (int w = 0; w < ways; w++) {
-                        long all = ahead[s] + behind[wayState[w]];
-                        around[wayCombo[w]] = Math.min(around[wayCombo[w]], all);
-                    }
-                }
+                int c = stateCombo[s];
+                comboAround[c] = Math.min(comboAround[c], ahead[s] + behind[s]);
             }
         }
 
@@ -1171,9 +1163,9 @@ public final class UnitHours {
         int costAround(Day day, int demand) {
             int least = NONE;
             for (int c = 0; c < combos; c++) {
-                if (around[c] < FAR) {
+                if (comboAround[c] < FAR) {
                     int part = day.hourCost(demand, comboOn[c], comboStarting[c]);
-                    int all = costOf(around[c]) + part;
+                    int all = costOf(comboAround[c]) + part;
                     if (part != NONE && (least == NONE || all < least)) {
                         least = all;
                     }
@@ -1182,10 +1174,25 @@ public final class UnitHours {
             return least;
         }
 
-        /** Ahead of hour 0 there is one way, to the state in which all are off long since. */
-        private void beginOff() {
+        /** Through the hours ahead of one; at first all units are off long since, which is state 0. */
+        private void walk(Day day, int to) {
             fillStates(ahead, FAR);
             ahead[0] = 0;
+            for (int h = 0; h < to; h++) {
+                turnAll();
+                costCombos(day, h);
+                addParts(ahead);
+            }
+        }
+
+        /** From the end of the day back to behind an hour; no state is unlawful at the end. */
+        private void walkBack(Day day, int to) {
+            fillStates(behind, 0);
+            for (int h = day.hours - 1; h > to; h--) {
+                costCombos(day, h);
+                addParts(behind);
+                turnAllBack();
+            }
         }
 
         private void fillStates(long[] row, long v) {
@@ -1194,45 +1201,66 @@ public final class UnitHours {
             }
         }
 
-        private void step(Day day, int hour) {
-            costCombos(day, hour);
-            fillStates(aheadNext, FAR);
-            for (int s = 0; s < states; s++) {
-                if (ahead[s] < FAR) {
-                    findWays(s);
-                    for (int w = 0; w < ways; w++) {
-                        long all = ahead[s] + hourParts[wayCombo[w]];
-                        if (all < aheadNext[wayState[w]]) {
-                            aheadNext[wayState[w]] = all;
-                        }
-                    }
-                }
-            }
-            long[] old = ahead;
-            ahead = aheadNext;
-            aheadNext = old;
-        }
-
-        private void stepBack(Day day, int hour) {
-            costCombos(day, hour);
-            for (int s = 0; s < states; s++) {
-                findWays(s);
-                long least = FAR;
-                for (int w = 0; w < ways; w++) {
-                    least = Math.min(least, hourParts[wayCombo[w]] + behind[wayState[w]]);
-                }
-                behindNext[s] = least;
-            }
-            long[] old = behind;
-            behind = behindNext;
-            behindNext = old;
-        }
-
         private void costCombos(Day day, int hour) {
             for (int c = 0; c < combos; c++) {
                 int cost = day.hourCost(day.demands[hour], comboOn[c], comboStarting[c]);
                 long plan = (long) comboOn[c] << shiftOf(hour);
-                hourParts[c] = cost == NONE ? FAR : ((long) cost << PLAN_BITS) + plan;
+                comboParts[c] = cost == NONE ? FAR : ((long) cost << PLAN_BITS) + plan;
+            }
+        }
+
+        private void addParts(long[] row) {
+            for (int s = 0; s < states; s++) {
+                if (row[s] < FAR) {
+                    long part = comboParts[stateCombo[s]];
+                    row[s] = part < FAR ? row[s] + part : FAR;
+                }
+            }
+        }
+
+        /** The units turn one after the other, for what one may do does not hang on the others. */
+        private void turnAll() {
+            for (int u = 0; u < units; u++) {
+                int[] off = turnsOff[u];
+                int[] on = turnsOn[u];
+                int weight = Math.max(weights[u], 1);
+                int size = Math.max(sizes[u], 1);
+                fillStates(spare, FAR);
+                for (int s = 0; s < states; s++) {
+                    long way = ahead[s];
+                    if (way < FAR) {
+                        int own = s / weight % size;
+                        if (off[own] != NONE && way < spare[s + off[own]]) {
+                            spare[s + off[own]] = way;
+                        }
+                        if (on[own] != NONE && way < spare[s + on[own]]) {
+                            spare[s + on[own]] = way;
+                        }
+                    }
+                }
+                long[] old = ahead;
+                ahead = spare;
+                spare = old;
+            }
+        }
+
+        private void turnAllBack() {
+            for (int u = 0; u < units; u++) {
+                int[] off = turnsOff[u];
+                int[] on = turnsOn[u];
+                int weight = Math.max(weights[u], 1);
+                int size = Math.max(sizes[u], 1);
+                for (int s = 0; s < states; s++) {
+                    int own = s / weight % size;
+                    long way = off[own] == NONE ? FAR : behind[s + off[own]];
+                    if (on[own] != NONE && behind[s + on[own]] < way) {
+                        way = behind[s + on[own]];
+                    }
+                    spare[s] = way;
+                }
+                long[] old = behind;
+                behind = spare;
+                spare = old;
             }
         }
 
@@ -1240,87 +1268,53 @@ public final class UnitHours {
             units = day.units;
             states = 1;
             combos = 1;
+            stateCombo[0] = 0;
             for (int u = 0; u < units; u++) {
+                weights[u] = states;
                 if (u == without) {
-                    layOnlyState(u, false);
+                    layOnlyState(u, OFF);
                 } else if (day.kinds[u] == RIVER) {
-                    layOnlyState(u, true);
+                    layOnlyState(u, STAYS);
                 } else {
                     layUnitStates(u, day.ups[u], day.downs[u]);
                 }
                 states *= sizes[u];
-                combos *= 3;
+                combos *= ACTS_OF_ONE;
             }
         }
 
-        /** A river is told as one that stays on: its start costs nothing and lowers no roof. */
-        private void layOnlyState(int unit, boolean isOn) {
+        /** A river is told as one that stays on at all times: its start costs nothing and lowers no roof. */
+        private void layOnlyState(int unit, int act) {
             sizes[unit] = 1;
-            whenOff[unit][0] = isOn ? NONE : 0;
-            whenOn[unit][0] = isOn ? 0 : NONE;
-            actWhenOn[unit][0] = combos;
+            turnsOff[unit][0] = act == OFF ? 0 : NONE;
+            turnsOn[unit][0] = act == OFF ? NONE : 0;
+            layCombos(0, act);
         }
 
         /**
-         * States 0 .. down - 1: off, and so many hours more before it may start; then likewise on, and so
-         * many before it may stop. Where a state leads is told times the states of the units ahead of it.
+         * First the states of being off: it must be for 0, 1, .. hours more; then those of being on: it has been
+         * for 1, 2, .. hours. There are two of these at least, for its first hour is not like the others.
          */
         private void layUnitStates(int unit, int up, int down) {
-            sizes[unit] = down + up;
-            for (int k = 0; k < down; k++) {
-                whenOff[unit][k] = Math.max(k - 1, 0) * states;
-                whenOn[unit][k] = k == 0 ? (down + up - 1) * states : NONE;
-                actWhenOn[unit][k] = 2 * combos;
+            int most = Math.max(up, 2);
+            sizes[unit] = down + most;
+            for (int k = most - 1; k >= 0; k--) {
+                int own = down + k;
+                turnsOn[unit][own] = (k < most - 1 ? 1 : 0) * states;
+                turnsOff[unit][own] = k + 1 < up ? NONE : (down - 1 - own) * states;
+                layCombos(own, k == 0 ? STARTS : STAYS);
             }
-            for (int k = 0; k < up; k++) {
-                whenOn[unit][down + k] = (down + Math.max(k - 1, 0)) * states;
-                whenOff[unit][down + k] = k == 0 ? (down - 1) * states : NONE;
-                actWhenOn[unit][down + k] = combos;
-            }
-        }
-
-        /** All that can be done in a state of all units, and the states that this leads to. */
-        private void findWays(int state) {
-            int rest = state;
-            ways = 1;
-            wayCombo[0] = 0;
-            wayState[0] = 0;
-            for (int u = 0; u < units; u++) {
-                int size = Math.max(sizes[u], 1);
-                int own = rest % size;
-                rest /= size;
-                int off = whenOff[u][own];
-                int on = whenOn[u][own];
-                if (off == NONE) {
-                    turnOn(0, on, actWhenOn[u][own]);
-                } else if (on == NONE) {
-                    turnOff(off);
-                } else {
-                    doubleWays();
-                    turnOn(ways, on, actWhenOn[u][own]);
-                    turnOff(off);
-                    ways *= 2;
-                }
+            for (int k = down - 1; k >= 0; k--) {
+                turnsOff[unit][k] = k > 0 ? -states : 0;
+                turnsOn[unit][k] = k > 0 ? NONE : down * states;
+                layCombos(k, OFF);
             }
         }
 
-        private void doubleWays() {
-            for (int w = 0; w < ways; w++) {
-                wayCombo[ways + w] = wayCombo[w];
-                wayState[ways + w] = wayState[w];
-            }
-        }
-
-        private void turnOn(int from, int leadsTo, int act) {
-            for (int w = from; w < from + ways; w++) {
-                wayCombo[w] += act;
-                wayState[w] += leadsTo;
-            }
-        }
-
-        private void turnOff(int leadsTo) {
-            for (int w = 0; w < ways; w++) {
-                wayState[w] += leadsTo;
+        /** From the combos of the units ahead, which stand where state 0 of this one will: that is laid last. */
+        private void layCombos(int own, int act) {
+            for (int s = 0; s < states; s++) {
+                stateCombo[own * states + s] = stateCombo[s] + act * combos;
             }
         }
     }
