@@ -62,6 +62,49 @@ public final class ForetoldSentencesTest {
         due("the plan stays", x.unit(1, 6), 0);
     }
 
+    /** What was foretold before must not be told again of a day that is another. */
+    private static void p20_behindEachActItIsAnother() {
+        UnitHours x = Sentences.day("v0;h4;p4,8,1,9,1,1;");
+        due("at first", x.best(-1), 13);
+        x.image(0);
+        x.demand(0, 5);
+        due("demand", x.best(-1), 14);
+        x.price(0, 2);
+        due("price", x.best(-1), 19);
+        x.become(0, 2);
+        due("kind", x.best(-1), 14);
+        x.reserve(4);
+        due("reserve", x.best(-1), NONE);
+        x.undo();
+        due("undone", x.best(-1), 14);
+        x.undo();
+        due("undone", x.best(-1), 19);
+        x.layBest();
+        due("laid", x.best(-1), 19);
+        x.restore(0);
+        due("restored", x.best(-1), 13);
+        Check.feedText(x, "v0;h4;w4,8,3,9,1,1;");
+        x.day();
+        due("another day", x.best(-1), 12);
+        x.day();
+        due("a day with a fault", x.best(-1), 12);
+    }
+
+    private static void p20_behindOtherForetellings() {
+        UnitHours x = Sentences.day(TWO);
+        due("at first", x.best(-1), 38);
+        x.more(0);
+        x.wanted();
+        x.who(0, 0, 38);
+        x.who(2, 0, 38);
+        x.who(3, 0, 38);
+        x.drawn(8, 1, 0);
+        x.gap(3);
+        due("cost", x.best(-1), 38);
+        due("hour 0", x.best(0), 3);
+        due("hour 1", x.best(1), 3);
+    }
+
     // ---- 21 alone
 
     private static void p21_itemsFromIOn() {

@@ -212,6 +212,13 @@ public final class ForetoldTermsTest {
         due("a start more", Sentences.day("v0;h3;p0,3,1,0,1,1;p0,3,1,40,1,1;").more(0), 41);
     }
 
+    private static void t3_moreThanNothing() {
+        UnitHours x = Sentences.day("v0;h0;w0,9,4,0,1,1;");
+        due("best costs nothing", x.best(-1), 0);
+        due("more", x.more(0), 4);
+        due("and none then", Sentences.day("v0;h0;p2,9,4,0,1,1;").more(0), NONE);
+    }
+
     private static void t3_aRiverIsOffInWanted() {
         due("it can be", Sentences.day("v0;h5;r0,5,1,0,1,1;p0,5,1,0,1,1;").wanted(), 0);
         due("it is wanted", Sentences.day("v0;h6;r0,5,1,0,1,1;p0,5,1,0,1,1;").wanted(), 3);
@@ -255,6 +262,65 @@ public final class ForetoldTermsTest {
         due("none for 5", x.who(1, 0, 5), NONE);
         x.demand(0, 60);
         due("whatever it is now", x.who(0, 0, 4), 2);
+    }
+
+    private static void t3_demandsByWhichNoneIsOn() {
+        UnitHours x = Sentences.day("v0;h5;p1,9,2,3,1,1;");
+        due("0 alone", x.who(0, 0, 0), 1);
+        due("0", x.who(1, 0, 0), 0);
+        due("1", x.who(1, 0, 5), 1);
+        due("9", x.who(1, 0, 21), 9);
+        due("none beyond", x.who(1, 0, 23), NONE);
+    }
+
+    /** The other hours bind what may be done in this one, those ahead of it and those behind. */
+    private static void t3_demandsOfAnHourAmongOthers() {
+        UnitHours x = Sentences.day("v0;h5;h5;h5;p1,9,2,3,2,2;");
+        Sentences.dueAll("being off costs 23", new long[] {x.who(1, 0, 23), x.who(1, 1, 23), x.who(1, 2, 23)}, 0, NONE, 0);
+        Sentences.dueAll("a demand of 1 costs 25", new long[] {x.who(1, 0, 25), x.who(1, 1, 25), x.who(1, 2, 25)}, 1, 1, 1);
+        Sentences.dueAll("a demand of 9 costs 41", new long[] {x.who(1, 0, 41), x.who(1, 1, 41), x.who(1, 2, 41)}, 9, 9, 9);
+        Sentences.dueAll("none costs 43", new long[] {x.who(0, 0, 43), x.who(0, 1, 43), x.who(0, 2, 43)}, 0, 0, 0);
+        x.demand(2, 60);
+        Sentences.dueAll("another hour fails", new long[] {x.who(0, 0, 25), x.who(0, 1, 25), x.who(0, 2, 25)}, 0, 0, 1);
+    }
+
+    /** Of the plans by which an hour is met it is the cheapest that counts. */
+    private static void t3_demandsByTheCheapestPlan() {
+        UnitHours x = Sentences.day("v0;h5;h8;p2,6,3,4,1,1;q1,5,2,7,1,1;");
+        int[] first = {NONE, 28, 30, 32, 34, 36, 40, 42, 45, 48, 51, 54};
+        for (int d = 1; d <= 11; d++) {
+            UnitHours y = Sentences.day("v0;h" + d + ";h8;p2,6,3,4,1,1;q1,5,2,7,1,1;");
+            int cost = y.best(-1);
+            due("the least for " + cost, x.who(1, 0, cost), d);
+            due("how many for " + cost, x.who(0, 0, cost), 1);
+            due("by hand: " + d, cost, first[d]);
+        }
+    }
+
+    /**
+     * The plain one is on in all hours for 50 and 7, as long as this one needs 10 or more; below that it must be
+     * off in it, and then in one or two beside it too: water gives there, and is dear.
+     */
+    private static void t3_demandsOfEachOfSixHours() {
+        int[] off = {57, 97, 137, 137, 97, 57};
+        for (int h = 0; h < 6; h++) {
+            UnitHours x = Sentences.day("v0;h10;h10;h10;h10;h10;h10;p10,20,1,7,3,3;w0,10,5,0,1,2;");
+            int[] cost = new int[31];
+            for (int d = 0; d <= 30; d++) {
+                cost[d] = d < 10 ? off[h] + 5 * d : d <= 20 ? 57 + d : 77 + 5 * (d - 20);
+            }
+            for (int c : cost) {
+                int many = 0, least = NONE;
+                for (int d = 30; d >= 0; d--) {
+                    many += cost[d] == c ? 1 : 0;
+                    least = cost[d] == c ? d : least;
+                }
+                due("how many of hour " + h + " for " + c, x.who(0, h, c), many);
+                due("the least of hour " + h + " for " + c, x.who(1, h, c), least);
+            }
+            due("none of hour " + h, x.who(0, h, 128), 0);
+            due("none of hour " + h, x.who(1, h, 56), NONE);
+        }
     }
 
     private static void t3_kindsByWhichBestCosts() {
@@ -308,6 +374,15 @@ public final class ForetoldTermsTest {
         }
     }
 
+    private static void t3_aRowThatTellsThatNoneIsOn() {
+        UnitHours x = Sentences.day("v0;h0;h0;p4,8,1,9,1,1;");
+        x.row(0, 0, 2);
+        due("all but rivers", x.fits(0, 0, 2), 0b011110);
+        due("all but rivers", x.fits(0, 0, 1), 0b011110);
+        x.set(0, 1, 1);
+        due("none", x.fits(0, 0, 2), 0);
+    }
+
     private static void t3_aRowOfNoBest() {
         UnitHours x = Sentences.day("v0;h5;p4,8,1,9,1,1;");
         x.row(0, 0, 1);
@@ -345,6 +420,13 @@ public final class ForetoldTermsTest {
             drawn("v0;h0;w0,30,1,0,1,1;w0,30,1,0,1,1;", 999999, n, n, one[n]);
             drawn("v0;h0;h0;h0;h0;h0;h0;w0,30,1,0,1,1;w0,30,1,0,1,1;", 999999, n, n, six[n]);
         }
+    }
+
+    /** By 23 the first demand that is drawn is 0. */
+    private static void t3_drawnWhereBestCostsNothing() {
+        drawn("v0;h9;p5,9,1,0,1,1;", 23, 1, 1, 0);
+        drawn("v0;h9;w5,9,1,0,1,1;", 23, 1, 1, 0);
+        drawn("v1;h9;p5,9,1,0,1,1;", 23, 1, 0, 0);
     }
 
     private static void t3_drawnWhereThereIsNoBest() {

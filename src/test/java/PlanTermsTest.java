@@ -401,6 +401,52 @@ public final class PlanTermsTest {
         best("v0;h4;h1;h4;p1,4,1,3,1,1;q0,1,2,0,1,1;", 12, 1, 1, 1);
     }
 
+    /** Six hours and four units whose least hours are the longest: no search is wider. */
+    private static void t2_bestOfTheWidestDay() {
+        String units = "p10,10,1,0,3,3;q10,10,2,0,3,3;s10,10,3,0,3,3;p10,10,4,0,3,3;";
+        best("v0;h40;h40;h40;h30;h20;h10;" + units, 300 + 60 + 30 + 10, 15, 15, 15, 7, 3, 1);
+        best("v0;h10;h20;h30;h40;h40;h40;" + units, 10 + 30 + 60 + 300, 1, 3, 7, 15, 15, 15);
+        best("v0;h0;h0;h0;h10;h10;h10;" + units, 30, 0, 0, 0, 1, 1, 1);
+        best("v0;h40;h40;h40;h0;h0;h0;" + units, 300, 15, 15, 15, 0, 0, 0);
+        best("v0;h40;h40;h30;h30;h20;h10;" + units, NONE);
+        best("v0;h10;h10;h10;h0;h0;h10;" + units, 30 + 20, 1, 1, 1, 0, 0, 2);
+    }
+
+    /** Each unit in its turn is off for just as long as it must be, and for an hour less. */
+    private static void t2_bestThatTurnsOffAndOnAgain() {
+        String steady = "p5,5,1,0,1,1;", turning = "p10,10,1,0,1,3;";
+        best("v0;h10;h0;h0;h0;h10;h10;" + turning, 30, 1, 0, 0, 0, 1, 1);
+        best("v0;h15;h5;h5;h5;h15;h15;" + steady + turning, 60, 3, 1, 1, 1, 3, 3);
+        best("v0;h15;h5;h5;h5;h15;h15;" + turning + steady, 60, 3, 2, 2, 2, 3, 3);
+        best("v0;h20;h10;h10;h10;h20;h20;" + steady + steady + turning, 90, 7, 3, 3, 3, 7, 7);
+        best("v0;h25;h15;h15;h15;h25;h25;" + steady + steady + steady + turning, 120, 15, 7, 7, 7, 15, 15);
+        best("v0;h15;h5;h5;h15;h15;h15;" + steady + turning, NONE);
+        best("v0;h15;h5;h5;h15;" + steady + "p10,10,1,0,1,2;", 40, 3, 1, 1, 3);
+        best("v0;h15;h5;h15;" + steady + "p10,10,1,0,1,2;", NONE);
+        best("v0;h15;h5;h15;" + steady + "p10,10,1,0,1,1;", 35, 3, 1, 3);
+    }
+
+    private static void t2_bestWithRivers() {
+        best("v0;h5;h0;r0,5,2,9,1,1;p5,5,1,0,1,1;", 5, 3, 1);
+        best("v0;h5;h0;p5,5,1,0,1,1;r0,5,2,9,1,1;", 5, 3, 2);
+        best("v0;h5;h0;h5;r0,5,2,9,3,3;p5,5,1,0,1,1;r0,5,2,9,3,3;", 10, 7, 5, 7);
+        best("v0;h9;h9;r0,5,2,9,1,1;r0,5,1,9,1,1;", 2 * (5 + 8), 3, 3);
+        best("v0;h11;h0;r0,5,2,9,1,1;r0,5,1,9,1,1;", NONE);
+        UnitHours x = Sentences.day("v0;h5;h0;h5;p5,5,1,0,1,1;p5,5,1,0,1,3;w0,5,9,0,1,1;");
+        due("without a river", x.best(1), 0);
+        x.become(0, 5);
+        due("with one", x.best(1), 1);
+        due("with one", x.best(-1), 10);
+        x.become(2, 5);
+        due("with two", x.best(1), 5);
+        x.become(1, 5);
+        due("with three", x.best(1), 7);
+        x.undo();
+        x.undo();
+        x.undo();
+        due("without a river", x.best(1), 0);
+    }
+
     // ---- acts
 
     private static void t2_sixteenActsAndOneMore() {

@@ -668,6 +668,9 @@ public final class TermsTest {
         UnitHours x = Sentences.day(Sentences.TWO);
         x.run(0, 3);
         x.run(1, 1);
+        // what is foretold by a day that is thought of must leave nothing behind
+        x.more(0);
+        x.who(2, 0, 38);
         Check.feedText(x, Sentences.TWO);
         x.day();
         due("unit 0", x.unit(0, 6), 0);
