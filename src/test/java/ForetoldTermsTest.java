@@ -323,6 +323,18 @@ public final class ForetoldTermsTest {
         }
     }
 
+    /** Six hours and four units whose least hours are the longest: no search is wider. */
+    private static void t3_demandsOfTheWidestDay() {
+        UnitHours x = Sentences.day("v0;h40;h40;h40;h30;h20;h10;"
+                + "p10,10,1,0,3,3;q10,10,2,0,3,3;s10,10,3,0,3,3;p10,10,4,0,3,3;");
+        int[][] due = {{3, 440, 40}, {3, 400, 30}, {3, 370, 20}, {3, 350, NONE}, {5, 420, 20}, {5, 400, 10}, {5, 390, 0},
+            {5, 450, NONE}, {0, 400, 40}, {0, 370, 30}, {1, 400, 40}, {1, 360, NONE}, {4, 400, 20}, {4, 430, 30}};
+        for (int[] d : due) {
+            due("the least of hour " + d[0] + " for " + d[1], x.who(1, d[0], d[1]), d[2]);
+            due("how many of hour " + d[0] + " for " + d[1], x.who(0, d[0], d[1]), d[2] == NONE ? 0 : 1);
+        }
+    }
+
     private static void t3_kindsByWhichBestCosts() {
         UnitHours x = Sentences.day("v0;h5;p4,8,1,9,1,1;");
         due("plain", x.who(2, 0, 14), 0b10);

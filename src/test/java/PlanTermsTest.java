@@ -447,6 +447,26 @@ public final class PlanTermsTest {
         due("without a river", x.best(1), 0);
     }
 
+    /** The unit behind a river keeps its hours, whatever the river was before. */
+    private static void t2_bestBehindARiver() {
+        UnitHours x = Sentences.day("v0;h5;h0;h0;p0,0,1,0,1,1;p5,5,1,0,3,1;");
+        due("it must be on too long", x.best(-1), NONE);
+        x.become(0, 5);
+        due("behind a river, too", x.best(-1), NONE);
+        due("by no demand", x.who(0, 0, 5), 0);
+        due("but by none at all", x.who(1, 0, 0), 0);
+        x.demand(1, 5);
+        x.demand(2, 5);
+        due("now it can", x.best(-1), 15);
+        due("both are on", x.best(2), 3);
+        UnitHours y = Sentences.day("v0;h0;h5;p0,0,1,0,1,1;p5,5,1,9,1,1;");
+        due("it starts", y.best(-1), 14);
+        y.become(0, 5);
+        due("behind a river, too", y.best(-1), 14);
+        due("by no demand", y.who(1, 0, 14), 0);
+        due("not without its start", y.who(0, 0, 5), 0);
+    }
+
     // ---- acts
 
     private static void t2_sixteenActsAndOneMore() {
