@@ -1,3 +1,5 @@
+import java.util.List;
+
 /** Promises 20 to 31, sentence by sentence, at their edges. */
 public final class ForetoldSentencesTest {
     private static final int NONE = Sentences.NONE, BAD = Sentences.BAD, STATE = Sentences.STATE;
@@ -591,6 +593,20 @@ public final class ForetoldSentencesTest {
         due("no third unit", x.unit(2, 0), BAD);
         due("off", x.unit(0, 6), 0);
         due("best", x.best(-1), 38);
+    }
+
+    private static void p31_noCallSeesWhatWasAheadOfIt() {
+        List<Long> want = Twins.answers(Sentences.day(TWO));
+        for (String text : new String[] {"v0;h1;r0,9,1,0,3,3;", FOUR}) {
+            UnitHours x = Sentences.day(TWO);
+            x.image(1);
+            Check.feedText(x, text);
+            x.day();
+            x.layBest();
+            x.more(0);
+            due("restore", x.restore(1), 1);
+            Sentences.holds("answers behind " + text, Twins.answers(x).equals(want));
+        }
     }
 
     private static void p31_noActCanBeUndoneThen() {

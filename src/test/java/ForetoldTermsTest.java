@@ -407,6 +407,15 @@ public final class ForetoldTermsTest {
         due("there is no best", x.fits(0, 0, 1), 0);
     }
 
+    private static void t3_noRowIsAsNoBest() {
+        UnitHours x = Sentences.day("v20;h60;p0,1,1,0,1,1;p0,1,1,0,1,1;p0,1,1,0,1,1;p0,1,1,0,1,1;");
+        x.row(0, 0, 1);
+        for (int v = -16; v < 16; v++) {
+            x.set(0, 0, v);
+            due("fits " + v, x.fits(v & 3, 0, 1), 0);
+        }
+    }
+
     // ---- drawn
 
     private static void drawn(String text, int seed, int n, long often, long cost) {

@@ -12,6 +12,7 @@ import java.util.Set;
 import java.util.TreeSet;
 import java.util.regex.Matcher;
 import java.util.regex.Pattern;
+import java.util.stream.Stream;
 
 /** The face, and those rules of LANGUAGE.md that a text search or reflection can see. */
 public final class LanguageTest {
@@ -32,6 +33,7 @@ public final class LanguageTest {
         for (Class<?> inside : UnitHours.class.getDeclaredClasses()) {
             fields(inside);
         }
+        noHiddenClasses();
         text(Files.readString(Path.of("src/main/java/UnitHours.java")));
         CHECK.finish();
     }
@@ -70,7 +72,11 @@ public final class LanguageTest {
         Class<?>[] inside = UnitHours.class.getDeclaredClasses();
         CHECK.holds("rule 11: some twelve classes", inside.length < 12);
         for (Class<?> c : inside) {
-            CHECK.holds("rule 2: " + c.getName() + " is static", Modifier.isStatic(c.getModifiers()));
+            int modifiers = c.getModifiers();
+            CHECK.holds("rule 2: " + c.getName() + " is static", Modifier.isStatic(modifiers));
+            CHECK.holds("rule 1: " + c.getName() + " is not for others",
+                    !Modifier.isPublic(modifiers) && !Modifier.isProtected(modifiers));
+            CHECK.holds("rule 2: none inside " + c.getName(), c.getDeclaredClasses().length == 0);
             for (Method m : c.getDeclaredMethods()) {
                 CHECK.holds("rule 1: the name " + m.getName(), !faceNames.contains(m.getName()));
                 CHECK.holds("rule 11: parameters of " + m.getName(), m.getParameterCount() <= 7);
@@ -87,11 +93,29 @@ public final class LanguageTest {
         for (Field f : c.getDeclaredFields()) {
             if (Modifier.isStatic(f.getModifiers())) {
                 CHECK.holds("rule 5: " + f.getName() + " is final", Modifier.isFinal(f.getModifiers()));
+                CHECK.holds("rule 5: the type of " + f.getName(),
+                        Set.of(int.class, long.class, int[].class).contains(f.getType()));
             } else {
+                CHECK.holds("rule 3: the type of " + f.getName(), isTold(f.getType()));
                 own++;
             }
         }
         CHECK.holds("rule 11: fields of " + c.getName() + ": " + own, own <= 20);
+    }
+
+    private static boolean isTold(Class<?> type) {
+        boolean isOwn = type.getName().startsWith("UnitHours$") || type.getName().startsWith("[LUnitHours$");
+        return isOwn || Set.of(int.class, long.class, boolean.class, int[].class, long[].class, int[][].class)
+                .contains(type);
+    }
+
+    /** Local and anonymous classes are compiled to files with a figure behind the $. */
+    private static void noHiddenClasses() throws Exception {
+        Path home = Path.of(UnitHours.class.getProtectionDomain().getCodeSource().getLocation().toURI());
+        try (Stream<Path> files = Files.list(home)) {
+            boolean isHidden = files.anyMatch(f -> f.getFileName().toString().matches("UnitHours\\$\\d.*"));
+            CHECK.holds("rule 2: no local or anonymous class", !isHidden);
+        }
     }
 
     private static void text(String source) {
@@ -99,7 +123,8 @@ public final class LanguageTest {
         String[] forbidden = {"\\bthrow\\b", "\\bthrows\\b", "\\btry\\b", "\\bcatch\\b", "\\bsynchronized\\b",
             "\\bassert\\b", "->", "::", "\\bpackage\\b", "\\bequals\\b", "\\bhashCode\\b", "\\btoString\\b", "Exact\\b",
             "\\bThread\\b", "\\bRandom\\b", "nanoTime", "currentTimeMillis", "\\bclass\\s*\\(", "\\bprotected\\b",
-            "\\bdouble\\b", "\\bfloat\\b", "while\\s*\\(true\\)", "for\\s*\\(;;\\)", "\\bstatic\\s*\\{"};
+            "\\bdouble\\b", "\\bfloat\\b", "\\bString\\b", "\"",
+            "while\\s*\\(true\\)", "for\\s*\\(;;\\)", "\\bstatic\\s*\\{"};
         for (String f : forbidden) {
             CHECK.holds("no " + f, !Pattern.compile(f).matcher(code).find());
         }

@@ -197,6 +197,15 @@ public final class PlanTermsTest {
         met("v0;h0;p0,9,1,0,1,1;", "1", true);
     }
 
+    private static void t2_floorsOfThoseThatStayOnToo() {
+        met("v0;h5;h5;p5,9,1,0,1,1;", "11", true);
+        met("v0;h5;h4;p5,9,1,0,1,1;", "11", false);
+        met("v0;h5;h8;p5,9,1,0,1,1;q3,9,1,0,1,1;", "11 01", true);
+        met("v0;h5;h7;p5,9,1,0,1,1;q3,9,1,0,1,1;", "11 01", false);
+        met("v0;h8;h7;p5,9,1,0,1,1;q3,9,1,0,1,1;", "11 11", false);
+        met("v0;h5;h4;s5,9,1,0,1,1;", "11", false);
+    }
+
     private static void t2_roofsThatAreJustDemandAndReserveAndOneLess() {
         met("v2;h7;p5,9,1,0,1,1;", "1", true);
         met("v2;h8;p5,9,1,0,1,1;", "1", false);
@@ -270,6 +279,18 @@ public final class PlanTermsTest {
     private static void t2_aSlowOneGivesItsLowAsItStarts() {
         UnitHours x = running("v0;h9;h9;s3,8,1,0,1,1;p2,9,5,0,1,1;", "11", "11");
         Sentences.dueAll("gives", new long[] {x.gives(0, 0), x.gives(1, 0), x.gives(0, 1), x.gives(1, 1)}, 3, 6, 7, 2);
+    }
+
+    private static void t2_aSlowOneStartsBesideOneThatStays() {
+        UnitHours x = running("v0;h9;h9;p2,9,5,0,1,1;s3,8,1,0,1,1;", "11", "01");
+        Sentences.dueAll("gives", new long[] {x.gives(0, 0), x.gives(1, 0), x.gives(0, 1), x.gives(1, 1)}, 9, 0, 6, 3);
+        due("cost", x.plan(0), 45 + 30 + 3);
+    }
+
+    private static void t2_aSlowOneStaysBesideOneThatStarts() {
+        UnitHours x = running("v0;h3;h9;p2,9,5,0,1,1;s3,8,1,0,1,1;", "01", "11");
+        Sentences.dueAll("gives", new long[] {x.gives(0, 0), x.gives(1, 0), x.gives(0, 1), x.gives(1, 1)}, 0, 3, 2, 7);
+        due("cost", x.plan(0), 3 + 10 + 7);
     }
 
     // ---- what a plan costs

@@ -705,6 +705,30 @@ public final class TermsTest {
         Sentences.holds("all stays", Twins.seen(x).equals(want));
     }
 
+    private static void t1_noCallSeesATextThatHasAFault() {
+        List<Long> want = Twins.answers(Sentences.day(Sentences.TWO));
+        String[] texts = {"v0;h1;r0,9,1,0,3,3", "v9;h1;r0,9,9,0,3,3;s0,9,9,9,3,3", LONGEST + "p",
+            "v0;h0;h0;h0;h0;h0;h0;r0,0,1,0,1,1;r0,0,1,0,1,1;r0,0,1,0,1,1;", "v0;", "v20", "v0;h60;h0"};
+        for (String text : texts) {
+            UnitHours x = Sentences.day(Sentences.TWO);
+            Check.feedText(x, text + ",");
+            Sentences.holds("a fault of " + text, x.day() <= -1000100);
+            Sentences.holds("answers behind " + text, Twins.answers(x).equals(want));
+        }
+    }
+
+    private static void t1_noCallSeesTheDayBefore() {
+        List<Long> want = Twins.answers(Sentences.day(Sentences.TWO));
+        for (String text : new String[] {"v0;h1;r0,9,1,0,3,3;", Sentences.FOUR, LONGEST}) {
+            UnitHours x = Sentences.day(text);
+            x.layBest();
+            x.more(0);
+            Check.feedText(x, Sentences.TWO);
+            due("day", x.day(), 2);
+            Sentences.holds("answers behind " + text, Twins.answers(x).equals(want));
+        }
+    }
+
     private static void t1_withAFaultThereIsNoDayStill() {
         UnitHours x = Sentences.none();
         Check.feedText(x, "v0;h0;" + UNIT + "p0,0,1,0,1,9;");

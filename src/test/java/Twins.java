@@ -118,4 +118,70 @@ final class Twins {
             seen.add((long) x.drop(r));
         }
     }
+
+    /**
+     * What each call with a unit or an hour answers on a day of TWO, one beyond the edges too: some 150 calls. Those
+     * that could hide what lies behind them, because they try another day first, come last.
+     */
+    static List<Long> answers(UnitHours x) {
+        List<Long> seen = new ArrayList<>();
+        x.row(6, 2, 3);
+        x.set(6, 0, 4);
+        x.set(6, 1, 5);
+        foretold(x, seen);
+        for (int u = 0; u < 3; u++) {
+            seen.add((long) x.run(u, 4));
+            seen.add((long) x.run(u, 2));
+            seen.add((long) x.unit(u, 7));
+            seen.add((long) x.unit(u, 8));
+            seen.add((long) x.run(u, 3));
+            seen.add((long) x.unit(u, 8));
+            seen.add((long) x.ask(u, 0));
+        }
+        for (int w = 0; w < 5; w++) {
+            seen.add((long) x.plan(w));
+            for (int h = 0; h < 3; h++) {
+                seen.add((long) x.hour(h, w));
+                seen.add((long) x.gives(w, h));
+            }
+        }
+        seen.add((long) x.run(0, 0));
+        seen.add((long) x.run(1, 0));
+        seen.add((long) x.layBest());
+        looks(x, seen);
+        tried(x, seen);
+        return seen;
+    }
+
+    private static void foretold(UnitHours x, List<Long> seen) {
+        seen.add((long) x.wanted());
+        for (int w = -2; w < 3; w++) {
+            seen.add(x.alone(0, 6, 0, w));
+            seen.add(x.alone(1, 6, 1, w));
+            seen.add(x.alone(1, 6, 2, w));
+            seen.add(x.alone(2, 6, 0, w));
+            seen.add((long) x.moved(7, w));
+        }
+        for (int i = 0; i < 3; i++) {
+            seen.add(x.bound(6, i));
+            seen.add((long) x.gap(i));
+        }
+    }
+
+    private static void tried(UnitHours x, List<Long> seen) {
+        x.set(6, 0, 3);
+        x.set(6, 1, 3);
+        for (int n = 3; n > 0; n--) {
+            seen.add((long) x.fits(2, 6, n));
+            seen.add((long) x.fits(1, 6, n));
+        }
+        for (int h = 2; h >= 0; h--) {
+            seen.add((long) x.more(h));
+            seen.add((long) x.who(0, h, 38));
+            seen.add((long) x.who(2, h, 38));
+            seen.add((long) x.who(3, h, 38));
+        }
+        seen.add((long) x.drawn(8, 7, 0));
+        seen.add((long) x.drawn(8, 7, 1));
+    }
 }
